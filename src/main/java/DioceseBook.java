@@ -10,6 +10,8 @@ public final class DioceseBook {
     private static final int MOST_GO = 9999;
     private static final int MOST_SPAN = 5000;
     private static final int MILES_IN_ALL = -2;
+    /** The PERSONS of whom a SET can tell. */
+    private static final int LOW_PERSONS = 0x7FFFFFFF;
 
     private final Register register;
     private final Papers papers;
@@ -34,7 +36,6 @@ public final class DioceseBook {
         pieces = new Lives();
         visitation = new Visitation(register);
         holdersBefore = new long[Register.MOST_LIVINGS];
-        now = 0;
     }
 
     // ---- persons, livings, papers
@@ -244,7 +245,7 @@ public final class DioceseBook {
         switch (what) {
             case 0: return story.holderCount(l);
             case 1: return story.firstHolder(l);
-            case 2: return (int) (story.holders[l] & Integer.MAX_VALUE);
+            case 2: return (int) (story.holders[l] & LOW_PERSONS);
             case 3: return story.emptyFrom[l];
             case 4: return story.emptyBy[l];
             case 5: return story.presenter(l, day);
@@ -1841,8 +1842,8 @@ public final class DioceseBook {
         private final Register register;
         private final int[] living = new int[MOST];
         private int size;
-        /** The least MILES from THE SEE through a SET to one of it. */
-        private final int[][] way = new int[SETS][MOST];
+        /** The least MILES from THE SEE to a LIVING, through a SET that has it. */
+        private final int[][] way = new int[MOST][SETS];
         /** The least MILES of a DAY that sees a SET. */
         private final int[] ride = new int[SETS];
         private final int[] weight = new int[SETS];
@@ -1887,8 +1888,8 @@ public final class DioceseBook {
                 ride[part] = FAR;
                 for (int k = 0; k < size; k++) {
                     if ((part >> k & 1) == 1) {
-                        way[part][k] = wayTo(part ^ 1 << k, k);
-                        ride[part] = Math.min(ride[part], way[part][k] + register.milesFromSee(living[k]));
+                        way[k][part] = wayTo(part ^ 1 << k, k);
+                        ride[part] = Math.min(ride[part], way[k][part] + register.milesFromSee(living[k]));
                     }
                 }
             }
@@ -1901,7 +1902,7 @@ public final class DioceseBook {
             int least = FAR;
             for (int j = 0; j < size; j++) {
                 if ((ahead >> j & 1) == 1) {
-                    least = Math.min(least, way[ahead][j] + register.milesBetween(living[j], living[k]));
+                    least = Math.min(least, way[j][ahead] + register.milesBetween(living[j], living[k]));
                 }
             }
             return least;

@@ -78,6 +78,8 @@ public final class CanonsTest {
         fault("let  ", 1, 5);
         fault("let fees 1;", 1, 4);
         fault("let fe 1;", 1, 4);
+        fault("let feez 1;", 1, 4);
+        fault("letz fee 1;", 1, 0);
         fault("letfee 1;", 1, 0);
         fault("lets fee 1;", 1, 0);
         fault("  le fee 1;", 1, 2);

@@ -254,6 +254,8 @@ public final class LandTest {
             b.plan(1, 1000, 0), b.plan(1, -5, 0), b.plan(1, 100, -3), b.plan(3, 1, -3));
         C.row("not", "-100003 -100003 -100003 20 20", b.plan(1, 19, 0), b.plan(3, 39, NONE), b.plan(3, 39, 9),
             b.plan(1, 20, IN_ALL), b.plan(1, 999, IN_ALL));
+        C.row("another set with the same miles", "20 40 3 2", b.plan(1, 40, IN_ALL), b.plan(3, 40, IN_ALL),
+            b.plan(3, 40, 0), b.plan(2, 40, 0));
         C.row("the same set with other miles", "1 -100003 1", b.plan(3, 40, NONE), b.plan(3, 39, NONE),
             b.plan(3, 41, NONE));
     }

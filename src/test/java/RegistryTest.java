@@ -16,6 +16,7 @@ public final class RegistryTest {
         promise7Void();
         promise8();
         promise9();
+        promise9Full();
         promise10();
         C.end();
     }
@@ -200,6 +201,21 @@ public final class RegistryTest {
             b.about(1, 101, 4));
         C.row("refused", "-100001 -100001 -100002 -100002 -100002 -100002 -100001", b.about(4, 0, 0), b.about(-1, 0, 0),
             b.about(0, 102, 0), b.about(0, -1, 0), b.about(0, 0, 5), b.about(0, 0, -1), b.about(4, 102, 5));
+    }
+
+    /** With all PAPERS told there is no row behind the last one of THE BOOK. */
+    private static void promise9Full() {
+        DioceseBook b = Check.with(3, 1);
+        b.go(10);
+        b.paper(6, 5, 0, 0, 1, 0);
+        b.paper(12, 5, 0, 0, 0, 0);
+        for (int i = 2; i < 149; i++) {
+            b.paper(8, 1, 0, 0, 0, 0);
+        }
+        b.go(1);
+        b.paper(6, 6, 0, 1, 2, 0);
+        C.row("heirs", "-1 2 -1 -1", b.about(0, 11, 3), b.about(1, 11, 3), b.about(1, 10, 3), b.about(2, 10, 3));
+        C.row("patron", "0 -1", b.seat(0, 10, 11, 5), b.book(10, 148));
     }
 
     private static void promise10() {

@@ -129,6 +129,10 @@ public final class CanonsBoundsTest {
             "(y|y)&n", "n&(y|y)", "y&y&n", "n&y&y", "y&n&y", "n|n|n", "!(y&y)", "!(y|n)", "!y|n", "!(!(!(y)))"}) {
             test(unmet, false);
         }
+        test("y|age<0", true);
+        test("y&age<0", false);
+        test("y&!age<0", true);
+        test("y|leave=9999", true);
         test("((((((((y))))))))", true);
         test("((((((((n))))))))", false);
         test("(n|(n|(n|(n|(n|(n|(n|(n|y))))))))", true);

@@ -80,6 +80,10 @@ public final class LandBoundsTest {
             "match 0 NONE -> 10", "match 0 0 -> 0", "match 0 1 -> 1");
         S.asks(Sentences.book("living 0 0 0", "field 0 0 1 9 1", "field 0 0 2 9 2", "field 0 1 2 9 2", "field 0 1 1 9 1"),
             "match 0 NONE -> 0", "match 0 0 -> 1", "match 0 1 -> 0");
+        S.asks(Sentences.book("living 0 0 0", "field 0 0 5 9 5", "field 0 1 6 9 6", "field 0 1 5 9 5"), "match 0 NONE -> 10",
+            "match 0 0 -> 1");
+        S.asks(Sentences.book("living 0 0 0", "field 0 0 1 5 1", "field 0 0 2 5 2", "field 0 1 1 5 1"), "match 0 NONE -> 10",
+            "match 0 0 -> 0", "match 0 1 -> NONE");
         DioceseBook last = Sentences.book("12 x living 0 0 0", "field 5 0 1 1 1", "field 5 1 2 99 2", "field 11 0 3 30 3",
             "field 11 0 4 40 4", "field 11 1 4 41 4", "field 11 1 3 33 3", "field 11 1 5 9 5", "field 6 0 3 30 3");
         S.asks(last, "match 11 NONE -> 14", "match 11 0 -> 1", "match 11 1 -> 0", "match 11 2 -> NONE", "match 5 NONE -> 29",

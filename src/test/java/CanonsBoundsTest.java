@@ -91,8 +91,8 @@ public final class CanonsBoundsTest {
         faulty("bar unless age=1;", 1, 4);
         faulty("bar age=1 unless age=1 unless age=1;", 1, 23);
         faulty("strike;", 1, 6);
-        S.sentence("test = both {'or' both}   both = one {'and' one}   one = 'not' one | '(' test ')' | fact ('<' | '>' | '=') "
-            + "NUMBER.");
+        S.sentence("test = both {'or' both}   both = one {'and' one}   one = 'not' one | '(' test ')' | fact ('<' | "
+            + "'>' | '=') NUMBER.");
         good("bar age=1 or age=2 or age=3;", "bar age=1 and age=2 and age=3;", "bar not age=1;", "bar not not age=1;",
             "bar not(age=1);", "bar (age=1 or age=2)and age=3;", "bar " + "not ".repeat(47) + "age=1;");
         faulty("bar or age=1;", 1, 4);
@@ -116,17 +116,20 @@ public final class CanonsBoundsTest {
     private static void test(String letters, boolean met) {
         String test = letters.replace("y", "rich=5").replace("n", "rich=6").replace("!", "not ").replace("&", " and ")
             .replace("|", " or ");
-        S.asks(Sentences.book("person 0", "living 0 0 5", "law 0 bar " + test + ";"), "barred 0 0 0 0 -> " + (met ? 0 : -1));
+        S.asks(Sentences.book("person 0", "living 0 0 5", "law 0 bar " + test + ";"),
+            "barred 0 0 0 0 -> " + (met ? 0 : -1));
     }
 
     private static void testsTogether() {
         S.sentence("test = both {'or' both}   both = one {'and' one}   one = 'not' one | '(' test ')'");
-        for (String met : new String[] {"y", "!n", "!!y", "!!!n", "(y)", "y&y", "!n&y", "y&!n", "y|n", "n|y", "n|n|y", "y|n&n",
-            "n&n|y", "!n|y", "!n|n", "y&y&y", "!(n&y)", "!(n|n)", "(n|y)&y", "y&(n|y)", "n|(y&!(n|n))", "!(!(!(n)))"}) {
+        for (String met : new String[] {"y", "!n", "!!y", "!!!n", "(y)", "y&y", "!n&y", "y&!n", "y|n", "n|y", "n|n|y",
+            "y|n&n", "n&n|y", "!n|y", "!n|n", "y&y&y", "!(n&y)", "!(n|n)", "(n|y)&y", "y&(n|y)", "n|(y&!(n|n))",
+            "!(!(!(n)))"}) {
             test(met, true);
         }
-        for (String unmet : new String[] {"n", "!y", "!!n", "!!!y", "(n)", "n&y", "y&n", "n&n", "!y&y", "n|n", "y&n|n", "n|y&n",
-            "(y|y)&n", "n&(y|y)", "y&y&n", "n&y&y", "y&n&y", "n|n|n", "!(y&y)", "!(y|n)", "!y|n", "!(!(!(y)))"}) {
+        for (String unmet : new String[] {"n", "!y", "!!n", "!!!y", "(n)", "n&y", "y&n", "n&n", "!y&y", "n|n", "y&n|n",
+            "n|y&n", "(y|y)&n", "n&(y|y)", "y&y&n", "n&y&y", "y&n&y", "n|n|n", "!(y&y)", "!(y|n)", "!y|n",
+            "!(!(!(y)))"}) {
             test(unmet, false);
         }
         test("y|age<0", true);
@@ -140,8 +143,8 @@ public final class CanonsBoundsTest {
     }
 
     private static void namesOfLet() {
-        S.sentence("Names of let, with what holds at first: lapse 0 .. 24 [6], miles 0 .. 99 [30], worth 0 .. 999 [100], void 0 .. 1 [0], lapsed 0 .. 1 [0], "
-            + "decay 0 .. 2 [0], steps 0 .. 999 [0], fee 0 .. 999 [0].");
+        S.sentence("Names of let, with what holds at first: lapse 0 .. 24 [6], miles 0 .. 99 [30], worth 0 .. 999 "
+            + "[100], void 0 .. 1 [0], lapsed 0 .. 1 [0], decay 0 .. 2 [0], steps 0 .. 999 [0], fee 0 .. 999 [0].");
         S.asks(new DioceseBook(), "force 0 0 0 -> 6", "force 1 0 0 -> 30", "force 2 0 0 -> 100", "force 3 0 0 -> 0",
             "force 4 0 0 -> 0", "force 5 0 0 -> 0", "force 6 0 0 -> 0", "force 7 0 0 -> 0", "force 0 30000 0 -> 6");
         for (int name = 0; name < NAMES.length; name++) {
@@ -273,8 +276,8 @@ public final class CanonsBoundsTest {
 
     private static void unlike(String ahead, String word, String behind) {
         int last = word.length() - 1;
-        for (String other : new String[] {word.substring(1), word.substring(0, last), "q" + word, word + "q", "q" + word.substring(1),
-            word.substring(0, last) + "q"}) {
+        for (String other : new String[] {word.substring(1), word.substring(0, last), "q" + word, word + "q",
+            "q" + word.substring(1), word.substring(0, last) + "q"}) {
             if (!List.of(NAMES).contains(other)) {
                 faulty(ahead + other + behind, 1, ahead.length());
             }
@@ -301,16 +304,17 @@ public final class CanonsBoundsTest {
     }
 
     private static void strikes() {
-        S.sentence("'strike' k: all clauses of CANON k (one that there is already) hold no more from the DAY of this CANON on "
-            + "(a 'strike' within it neither).");
-        S.asks(new DioceseBook(), "law 0 strike 0; -> -13", "fault -> 7", "law 5 let fee 1; -> 0", "law 0 strike 1; -> -13",
-            "law 9 strike 0; -> 1", "counts 0 8 -> 1", "counts 0 9 -> 0", "force 7 8 0 -> 1", "force 7 9 0 -> 0",
-            "law 11 strike 1; -> 2", "counts 0 10 -> 0", "counts 0 11 -> 1", "force 7 11 0 -> 1", "counts 1 10 -> 1",
-            "counts 1 11 -> 0", "law 12 strike 3; -> -13", "law 13 strike 2; -> 3", "counts 0 12 -> 1", "counts 0 13 -> 0");
-        S.asks(new DioceseBook(), "law 20 let fee 1; -> 0", "law 10 strike 0; -> 1", "counts 0 19 -> 0", "counts 0 20 -> 0",
-            "counts 1 9 -> 0", "counts 1 10 -> 1");
-        S.asks(new DioceseBook(), "9 x law 0 let fee 1; -> 8", "law 1 strike 0;strike 8;strike 0008; -> 9", "counts 8 0 -> 1",
-            "counts 8 1 -> 0", "counts 0 1 -> 0", "counts 7 1 -> 1", "counts 9 1 -> 3");
+        S.sentence("'strike' k: all clauses of CANON k (one that there is already) hold no more from the DAY of this "
+            + "CANON on (a 'strike' within it neither).");
+        S.asks(new DioceseBook(), "law 0 strike 0; -> -13", "fault -> 7", "law 5 let fee 1; -> 0",
+            "law 0 strike 1; -> -13", "law 9 strike 0; -> 1", "counts 0 8 -> 1", "counts 0 9 -> 0", "force 7 8 0 -> 1",
+            "force 7 9 0 -> 0", "law 11 strike 1; -> 2", "counts 0 10 -> 0", "counts 0 11 -> 1", "force 7 11 0 -> 1",
+            "counts 1 10 -> 1", "counts 1 11 -> 0", "law 12 strike 3; -> -13", "law 13 strike 2; -> 3",
+            "counts 0 12 -> 1", "counts 0 13 -> 0");
+        S.asks(new DioceseBook(), "law 20 let fee 1; -> 0", "law 10 strike 0; -> 1", "counts 0 19 -> 0",
+            "counts 0 20 -> 0", "counts 1 9 -> 0", "counts 1 10 -> 1");
+        S.asks(new DioceseBook(), "9 x law 0 let fee 1; -> 8", "law 1 strike 0;strike 8;strike 0008; -> 9",
+            "counts 8 0 -> 1", "counts 8 1 -> 0", "counts 0 1 -> 0", "counts 7 1 -> 1", "counts 9 1 -> 3");
     }
 
     private static void firstFault() {
@@ -345,8 +349,8 @@ public final class CanonsBoundsTest {
         faulty("let lapse 24;let lapse 25;", 2, 23);
         S.sentence("3 a strike of a CANON that there is not (at its first).");
         S.asks(new DioceseBook(), "law 0 -> 0", "law 0 strike 0; -> 1", "law 0 strike  2; -> -13", "fault -> 8",
-            "law 0 strike 1; -> 2", "law 0 strike 0;strike 9999; -> -13", "fault -> 16", "law 0 strike 3 -> -13", "fault -> 7",
-            "count 5 -> 3");
+            "law 0 strike 1; -> 2", "law 0 strike 0;strike 9999; -> -13", "fault -> 16", "law 0 strike 3 -> -13",
+            "fault -> 7", "count 5 -> 3");
     }
 
     private static void thirteenthClause() {
@@ -377,8 +381,8 @@ public final class CanonsBoundsTest {
     }
 
     private static void whichCount() {
-        S.sentence("On a DAY: of those CANONS whose DAY is not after it, from the last number down, one that is not struck by one "
-            + "that counts, counts, with all its clauses.");
+        S.sentence("On a DAY: of those CANONS whose DAY is not after it, from the last number down, one that is not "
+            + "struck by one that counts, counts, with all its clauses.");
         S.asks(new DioceseBook(), "law 10 let fee 1;bar age=1; -> 0", "law 20 strike 0; -> 1", "law 30 strike 1; -> 2",
             "law 25 strike 2; -> 3", "counts 0 9 -> 0", "counts 0 10 -> 2", "counts 0 19 -> 2", "counts 0 20 -> 0",
             "counts 1 19 -> 0", "counts 1 20 -> 1", "counts 3 24 -> 0", "counts 3 25 -> 1", "counts 2 29 -> 0",
@@ -387,14 +391,15 @@ public final class CanonsBoundsTest {
 
     private static void lastLetRules() {
         S.sentence("They follow one another by DAYS, then numbers, clause by clause; of a name the last let rules.");
-        S.asks(new DioceseBook(), "law 20 let fee 1;let fee 2;", "force 7 20 0 -> 2", "law 10 let fee 3;", "force 7 20 0 -> 2",
-            "force 7 19 0 -> 3", "law 20 let fee 4;", "force 7 20 0 -> 4", "force 7 20 1 -> 2", "law 10 let fee 5;",
-            "force 7 10 1 -> 3", "force 7 20 1 -> 2", "law 20 let lapse 1;", "force 7 20 1 -> 2", "force 0 20 1 -> 4");
+        S.asks(new DioceseBook(), "law 20 let fee 1;let fee 2;", "force 7 20 0 -> 2", "law 10 let fee 3;",
+            "force 7 20 0 -> 2", "force 7 19 0 -> 3", "law 20 let fee 4;", "force 7 20 0 -> 4", "force 7 20 1 -> 2",
+            "law 10 let fee 5;", "force 7 10 1 -> 3", "force 7 20 1 -> 2", "law 20 let lapse 1;", "force 7 20 1 -> 2",
+            "force 0 20 1 -> 4");
     }
 
     private static void bars() {
-        S.sentence("A PERSON is BARRED from a LIVING on a DAY, if some bar that counts is met (its test, and not that behind "
-            + "unless).");
+        S.sentence("A PERSON is BARRED from a LIVING on a DAY, if some bar that counts is met (its test, and not that "
+            + "behind unless).");
         String[] unless = {"bar rich=5 unless leave=0;", "bar rich=5 unless leave=1;", "bar rich=6 unless leave=1;",
             "bar rich=6 unless leave=0;", "bar rich=5;"};
         int[] want = {-1, 0, -1, -1, 0};
@@ -406,11 +411,11 @@ public final class CanonsBoundsTest {
     }
 
     private static void promise11() {
-        S.sentence("Up to eight bytes (n 1 .. 8) of a long, the highest of these first, come behind THE TEXT: how many it has. "
-            + "OUTSIDE, FULL.");
+        S.sentence("Up to eight bytes (n 1 .. 8) of a long, the highest of these first, come behind THE TEXT: how many "
+            + "it has. OUTSIDE, FULL.");
         S.asks(new DioceseBook(), "feed 0 0 -> OUTSIDE", "feed 9 0 -> OUTSIDE", "feed -1 0 -> OUTSIDE", "count 10 -> 0",
-            "feed 1 -148 -> 1", "feed 1 -155 -> 2", "feed 2 29728 -> 4", "feed 6 4702433546602557746 -> 10", "feed 1 59 -> 11",
-            "canon 0 -> 0", "force 7 0 0 -> 12");
+            "feed 1 -148 -> 1", "feed 1 -155 -> 2", "feed 2 29728 -> 4", "feed 6 4702433546602557746 -> 10",
+            "feed 1 59 -> 11", "canon 0 -> 0", "force 7 0 0 -> 12");
         S.asks(new DioceseBook(), "24 x feed 8 -1 -> 192", "feed 7 -1 -> 199", "feed 2 0 -> FULL", "feed 8 0 -> FULL",
             "feed 9 0 -> OUTSIDE", "feed 0 0 -> OUTSIDE", "count 10 -> 199", "feed 1 0 -> 200", "feed 1 0 -> FULL",
             "feed 9 0 -> OUTSIDE", "count 10 -> 200", "canon 0 -> -11", "fault -> 0", "feed 8 0 -> 8");
@@ -419,57 +424,59 @@ public final class CanonsBoundsTest {
     }
 
     private static void promise12() {
-        S.sentence("THE TEXT (it is empty then) becomes a CANON, in force from a DAY (0 .. 30000) on: its number; -10 less the "
-            + "number of its FAULT. OUTSIDE (THE TEXT stays), FULL (likewise).");
-        S.asks(new DioceseBook(), "text let fee 1; -> 10", "canon -1 -> OUTSIDE", "canon 30001 -> OUTSIDE", "count 10 -> 10",
-            "count 5 -> 0", "canon 30000 -> 0", "count 10 -> 0", "canon 0 -> 1", "count 5 -> 2", "counts 1 0 -> 0",
-            "law 0 let -> -11", "count 10 -> 0", "count 5 -> 2", "law 0 let fee 1000; -> -12", "law 0 strike 2; -> -13",
-            "law 0 " + TWELVE + "let -> -14", "law 0 bar ((((((((( -> -15", "count 5 -> 2", "force 7 30000 0 -> 1");
-        S.asks(Sentences.book("10 x canon 0"), "text let -> 3", "canon 0 -> FULL", "canon 30001 -> OUTSIDE", "canon -1 -> OUTSIDE",
-            "fault -> NONE", "count 10 -> 3", "count 5 -> 10", "feed 1 32 -> 4");
+        S.sentence("THE TEXT (it is empty then) becomes a CANON, in force from a DAY (0 .. 30000) on: its number; -10 "
+            + "less the number of its FAULT. OUTSIDE (THE TEXT stays), FULL (likewise).");
+        S.asks(new DioceseBook(), "text let fee 1; -> 10", "canon -1 -> OUTSIDE", "canon 30001 -> OUTSIDE",
+            "count 10 -> 10", "count 5 -> 0", "canon 30000 -> 0", "count 10 -> 0", "canon 0 -> 1", "count 5 -> 2",
+            "counts 1 0 -> 0", "law 0 let -> -11", "count 10 -> 0", "count 5 -> 2", "law 0 let fee 1000; -> -12",
+            "law 0 strike 2; -> -13", "law 0 " + TWELVE + "let -> -14", "law 0 bar ((((((((( -> -15", "count 5 -> 2",
+            "force 7 30000 0 -> 1");
+        S.asks(Sentences.book("10 x canon 0"), "text let -> 3", "canon 0 -> FULL", "canon 30001 -> OUTSIDE",
+            "canon -1 -> OUTSIDE", "fault -> NONE", "count 10 -> 3", "count 5 -> 10", "feed 1 32 -> 4");
     }
 
     private static void promise13() {
         S.sentence("The byte of the FAULT of the latest canon() that was not refused otherwise; NONE.");
-        S.asks(new DioceseBook(), "fault -> NONE", "canon -1 -> OUTSIDE", "fault -> NONE", "law 0 let -> -11", "fault -> 3",
-            "text let fee x; -> 10", "fault -> 3", "canon 30001 -> OUTSIDE", "fault -> 3", "canon 0 -> -11", "fault -> 8",
-            "canon 0 -> 0", "fault -> NONE", "law 0 x -> -11", "fault -> 0");
-        S.asks(Sentences.book("9 x canon 0"), "law 0 let x -> -11", "fault -> 4", "canon 0 -> 9", "fault -> NONE", "text x",
-            "canon 0 -> FULL", "fault -> NONE");
+        S.asks(new DioceseBook(), "fault -> NONE", "canon -1 -> OUTSIDE", "fault -> NONE", "law 0 let -> -11",
+            "fault -> 3", "text let fee x; -> 10", "fault -> 3", "canon 30001 -> OUTSIDE", "fault -> 3", "canon 0 -> -11",
+            "fault -> 8", "canon 0 -> 0", "fault -> NONE", "law 0 x -> -11", "fault -> 0");
+        S.asks(Sentences.book("9 x canon 0"), "law 0 let x -> -11", "fault -> 4", "canon 0 -> 9", "fault -> NONE",
+            "text x", "canon 0 -> FULL", "fault -> NONE");
     }
 
     private static void promise14() {
-        S.sentence("What holds of a name (0 lapse, 1 miles, 2 worth, 3 void, 4 lapsed, 5 decay, 6 steps, 7 fee) on a DAY: "
-            + "what = 0 the NUMBER, 1 the CANON that rules (NONE). OUTSIDE.");
+        S.sentence("What holds of a name (0 lapse, 1 miles, 2 worth, 3 void, 4 lapsed, 5 decay, 6 steps, 7 fee) on a "
+            + "DAY: what = 0 the NUMBER, 1 the CANON that rules (NONE). OUTSIDE.");
         S.asks(Sentences.book("law 5 let lapse 0;"), "force 0 4 0 -> 6", "force 0 4 1 -> NONE", "force 0 5 0 -> 0",
-            "force 0 5 1 -> 0", "force 0 30000 1 -> 0", "force 0 0 1 -> NONE", "force 7 0 1 -> NONE", "force 8 0 0 -> OUTSIDE",
-            "force -1 0 0 -> OUTSIDE", "force 0 -1 0 -> OUTSIDE", "force 0 30001 0 -> OUTSIDE", "force 0 0 2 -> OUTSIDE",
-            "force 0 0 -1 -> OUTSIDE");
+            "force 0 5 1 -> 0", "force 0 30000 1 -> 0", "force 0 0 1 -> NONE", "force 7 0 1 -> NONE",
+            "force 8 0 0 -> OUTSIDE", "force -1 0 0 -> OUTSIDE", "force 0 -1 0 -> OUTSIDE", "force 0 30001 0 -> OUTSIDE",
+            "force 0 0 2 -> OUTSIDE", "force 0 0 -1 -> OUTSIDE");
     }
 
     private static void promise15() {
         S.sentence("How many clauses of a CANON count on a DAY. UNKNOWN, OUTSIDE.");
         S.asks(Sentences.book("law 5 " + TWELVE, "law 30000 strike 0;"), "counts 0 4 -> 0", "counts 0 5 -> 12",
-            "counts 0 29999 -> 12", "counts 0 30000 -> 0", "counts 0 0 -> 0", "counts 1 29999 -> 0", "counts 1 30000 -> 1",
-            "counts 2 0 -> UNKNOWN", "counts -1 0 -> UNKNOWN", "counts 0 -1 -> OUTSIDE", "counts 0 30001 -> OUTSIDE",
-            "counts 2 30001 -> UNKNOWN");
+            "counts 0 29999 -> 12", "counts 0 30000 -> 0", "counts 0 0 -> 0", "counts 1 29999 -> 0",
+            "counts 1 30000 -> 1", "counts 2 0 -> UNKNOWN", "counts -1 0 -> UNKNOWN", "counts 0 -1 -> OUTSIDE",
+            "counts 0 30001 -> OUTSIDE", "counts 2 30001 -> UNKNOWN");
     }
 
     private static void promise16() {
         S.sentence("NONE, or 100 times the CANON and the clause of the first bar that is met. UNKNOWN, OUTSIDE.");
         DioceseBook b = Sentences.book("person 0", "living 0 0 0", "9 x canon 0",
             "law 100 " + "bar rich=1;".repeat(11) + "bar rich=0;", "go 9");
-        S.asks(b, "barred 0 0 99 0 -> NONE", "barred 0 0 100 0 -> 911", "barred 0 0 30000 9 -> 911", "barred 0 0 0 9 -> NONE",
-            "barred 1 0 0 0 -> UNKNOWN", "barred -1 0 0 0 -> UNKNOWN", "barred 0 1 0 0 -> UNKNOWN", "barred 0 -1 0 0 -> UNKNOWN",
-            "barred 0 0 -1 0 -> OUTSIDE", "barred 0 0 30001 0 -> OUTSIDE", "barred 0 0 0 -1 -> OUTSIDE",
-            "barred 0 0 0 10 -> OUTSIDE", "barred 0 1 30001 10 -> UNKNOWN", "set 0 0 1 -> 0", "barred 0 0 100 9 -> 900");
+        S.asks(b, "barred 0 0 99 0 -> NONE", "barred 0 0 100 0 -> 911", "barred 0 0 30000 9 -> 911",
+            "barred 0 0 0 9 -> NONE", "barred 1 0 0 0 -> UNKNOWN", "barred -1 0 0 0 -> UNKNOWN",
+            "barred 0 1 0 0 -> UNKNOWN", "barred 0 -1 0 0 -> UNKNOWN", "barred 0 0 -1 0 -> OUTSIDE",
+            "barred 0 0 30001 0 -> OUTSIDE", "barred 0 0 0 -1 -> OUTSIDE", "barred 0 0 0 10 -> OUTSIDE",
+            "barred 0 1 30001 10 -> UNKNOWN", "set 0 0 1 -> 0", "barred 0 0 100 9 -> 900");
         S.asks(b, "set 0 0 2 -> 1", "barred 0 0 100 9 -> NONE");
         S.asks(Sentences.book("person 0", "living 0 0 0", "law 0 bar rich=0;"), "barred 0 0 0 0 -> 0");
         S.asks(Sentences.book("person 0", "living 0 0 0", "law 0 bar rich=0 unless leave=1;", "law 0 let fee 1;"),
             "law 0 bar rich=1;bar rich=0; -> 2", "barred 0 0 0 0 -> 0", "set 0 0 1 -> 0", "barred 0 0 0 0 -> 200",
             "law 0 bar rich=2;bar rich=2;bar rich=2;x -> -11", "barred 0 0 0 0 -> 200", "set 0 0 2 -> 1",
-            "barred 0 0 0 0 -> NONE", "law 0 bar rich=3; -> 3", "barred 0 0 0 0 -> NONE", "set 0 0 3 -> 2", "barred 0 0 0 0 -> 300",
-            "counts 3 0 -> 1");
+            "barred 0 0 0 0 -> NONE", "law 0 bar rich=3; -> 3", "barred 0 0 0 0 -> NONE", "set 0 0 3 -> 2",
+            "barred 0 0 0 0 -> 300", "counts 3 0 -> 1");
         S.sentence("AS KNOWN on another one (HOLDERS by THE STORY up to that DAY)");
         DioceseBook c = Sentences.book("person 0", "living 0 0 0", "living 0 0 0", "law 0 bar holds=1;", "go 9",
             "paper IN 5 0 0 CROWN 0", "go 1", "paper OUT 7 0 0 0 0");

@@ -2,15 +2,17 @@ import java.util.ArrayList;
 import java.util.List;
 
 /**
- * Of every call each number at both ends of its range and beyond them, alone and two at a time, in an object that has room
- * and in one that has none: what is due, and that an object that refused answers on like one that was never asked.
+ * Of every call each number at both ends of its range and beyond them, alone and two at a time, in an object that has
+ * room and in one that has none: what is due, and that an object that refused answers on like one that was never asked.
  */
 public final class RefusalsTest {
     private static final Sentences S = new Sentences();
-    private static final int UNKNOWN = Check.UNKNOWN, OUTSIDE = Check.OUTSIDE, NOT = Check.NOT, FULL = Check.FULL, NONE = Check.NONE;
+    private static final int UNKNOWN = Check.UNKNOWN, OUTSIDE = Check.OUTSIDE, NOT = Check.NOT, FULL = Check.FULL,
+        NONE = Check.NONE;
     private static final int MIN = Integer.MIN_VALUE, MAX = Integer.MAX_VALUE;
     private static final String[] WORLD = {"2 x person 5", "2 x living 3 4 9", "go 7", "paper IN 5 0 1 CROWN 0",
-        "paper SURVEY 6 1 0 0 8", "law 3 let fee 2;let lapse 1;", "text let", "present 1 1 4", "step 0 5", "field 1 0 1 2 3",
+        "paper SURVEY 6 1 0 0 8", "law 3 let fee 2;let lapse 1;", "text let", "present 1 1 4", "step 0 5",
+        "field 1 0 1 2 3",
         "piece 1 2 3 4 5", "2 x piece 1 2 3 6 6"};
 
     private final String call;
@@ -25,9 +27,9 @@ public final class RefusalsTest {
     }
 
     public static void main(String[] args) {
-        S.sentence("REFUSALS, of several the first in this order: UNKNOWN (a PERSON, LIVING, PAPER, CANON, SUIT, PIECE that there is "
-            + "not), OUTSIDE (another number out of its bounds), NOT (not now, as told), FULL, LARGE (as told). What is refused "
-            + "changes nothing.");
+        S.sentence("REFUSALS, of several the first in this order: UNKNOWN (a PERSON, LIVING, PAPER, CANON, SUIT, PIECE "
+            + "that there is not), OUTSIDE (another number out of its bounds), NOT (not now, as told), FULL, LARGE "
+            + "(as told). What is refused changes nothing.");
         registry();
         papers();
         lookedUp();
@@ -142,11 +144,13 @@ public final class RefusalsTest {
         add(line, b.fault());
         int now = b.count(0);
         for (int k = 0; k < 8; k++) {
-            add(line, b.seat(0, now, now, k), b.seat(1, now, now, k), b.force(k, 2, 0), b.force(k, 3, 0), b.force(k, 9, 1));
+            add(line, b.seat(0, now, now, k), b.seat(1, now, now, k), b.force(k, 2, 0), b.force(k, 3, 0), b.force(k, 9,
+                1));
             add(line, b.told(0, k), b.told(1, k), b.told(b.count(3) - 1, k), b.match(1, k), b.suit(0, now, k % 4));
         }
         for (int k = 0; k < 5; k++) {
-            add(line, b.about(0, now, k), b.about(1, now, k), b.book(now, k), b.change(0, now, k, 2), b.suit(0, k + 3, k % 4));
+            add(line, b.about(0, now, k), b.about(1, now, k), b.book(now, k), b.change(0, now, k, 2), b.suit(0, k + 3,
+                k % 4));
         }
         add(line, b.match(1, NONE), b.lives(NONE), b.lives(0), b.plan(3, 20, NONE), b.good(0, now), b.counts(0, 5));
         return line + later(b);
@@ -156,8 +160,10 @@ public final class RefusalsTest {
         StringBuilder line = new StringBuilder();
         add(line, b.set(0, 0, 0), b.set(0, 1, 0), b.set(1, 0, 0), b.set(1, 1, 0), b.person(0), b.living(0, 0, 0));
         add(line, b.paper(0, 0, 0, 0, 0, 0), b.present(0, 0, 0), b.field(0, 0, 0, 1, 0), b.field(1, 0, 0, 1, 0));
-        add(line, b.field(1, 1, 0, 1, 0), b.piece(0, 0, 0, 0, 0), b.appeal(0, 5), b.appeal(0, 1), b.step(0, 4), b.count(6));
-        add(line, b.canon(0), b.fault(), b.feed(1, ' '), b.canon(0), b.fault(), b.count(5), b.go(1), b.go(9999), b.go(9999));
+        add(line, b.field(1, 1, 0, 1, 0), b.piece(0, 0, 0, 0, 0), b.appeal(0, 5), b.appeal(0, 1), b.step(0, 4),
+            b.count(6));
+        add(line, b.canon(0), b.fault(), b.feed(1, ' '), b.canon(0), b.fault(), b.count(5), b.go(1), b.go(9999),
+            b.go(9999));
         return line.toString();
     }
 
@@ -180,25 +186,30 @@ public final class RefusalsTest {
     private static void papers() {
         String full = "148 x paper BORN 0 0 0 0 0";
         for (int kind : new int[] {Check.BORN, Check.DIED, Check.PRIESTED, Check.LEAVE}) {
-            of("paper " + kind, 5, MIN, 1, MIN, MIN).number(0, 0, 7, OUTSIDE).number(2, 0, 1, UNKNOWN).after(FULL, full).check();
+            of("paper " + kind, 5, MIN, 1, MIN, MIN).number(0, 0, 7, OUTSIDE).number(2, 0, 1, UNKNOWN).after(FULL,
+                full).check();
         }
         for (int kind : new int[] {Check.OUT, Check.ALONE}) {
-            of("paper " + kind, 5, 1, 1, MIN, MIN).number(0, 0, 7, OUTSIDE).number(1, 0, 1, UNKNOWN).number(2, 0, 1, UNKNOWN)
+            of("paper " + kind, 5, 1, 1, MIN, MIN).number(0, 0, 7, OUTSIDE).number(1, 0, 1, UNKNOWN).number(2, 0, 1,
+                UNKNOWN)
                 .after(FULL, full).check();
         }
         of("paper 9", 5, 1, 1, 0, MIN).number(0, 0, 7, OUTSIDE).number(1, 0, 1, UNKNOWN).number(2, 0, 1, UNKNOWN)
             .number(3, 0, 1, UNKNOWN).after(FULL, full).check();
         of("paper 3", 5, 1, 1, 0, MIN).number(0, 0, 7, OUTSIDE).number(1, 0, 1, UNKNOWN).number(2, 0, 1, UNKNOWN)
             .number(3, -4, -2, UNKNOWN).number(3, 0, 1, UNKNOWN).after(FULL, full).check();
-        of("paper 6", 5, MIN, 1, 0, MIN).number(0, 0, 7, OUTSIDE).but(2, 2, UNKNOWN).but(2, -1, UNKNOWN).but(2, 0, OUTSIDE)
+        of("paper 6", 5, MIN, 1, 0, MIN).number(0, 0, 7, OUTSIDE).but(2, 2, UNKNOWN).but(2, -1, UNKNOWN).but(2, 0,
+            OUTSIDE)
             .after(FULL, full).check();
-        of("paper 7", 5, 1, 1, 0, MIN).number(0, 0, 7, OUTSIDE).number(1, 0, 1, UNKNOWN).but(3, 2, UNKNOWN).but(3, -2, UNKNOWN)
+        of("paper 7", 5, 1, 1, 0, MIN).number(0, 0, 7, OUTSIDE).number(1, 0, 1, UNKNOWN).but(3, 2, UNKNOWN).but(3, -2,
+            UNKNOWN)
             .but(3, 1, OUTSIDE).after(FULL, full).check();
         of("paper 10", 5, 1, MIN, MIN, MIN).number(0, 0, 7, OUTSIDE).number(1, 0, 1, UNKNOWN).after(FULL, full).check();
         of("paper 11", 5, 1, MIN, MIN, 7).number(0, 0, 7, OUTSIDE).number(1, 0, 1, UNKNOWN).number(4, 0, 9999, OUTSIDE)
             .after(FULL, full).check();
         of("paper 12", 5, MIN, MIN, MIN, 1).number(0, 0, 7, OUTSIDE).number(4, 0, 1, UNKNOWN).check();
-        of("paper 12", 5, MIN, MIN, MIN, 1).number(0, 0, 7, OUTSIDE).but(4, 150, UNKNOWN).but(4, -1, UNKNOWN).after(FULL, full)
+        of("paper 12", 5, MIN, MIN, MIN, 1).number(0, 0, 7, OUTSIDE).but(4, 150, UNKNOWN).but(4, -1, UNKNOWN).after(FULL,
+            full)
             .check();
         of("paper", 0, 5, 1, 1, 0, 0).number(0, 0, 12, OUTSIDE).number(1, 0, 7, OUTSIDE).after(FULL, full).check();
     }
@@ -223,12 +234,14 @@ public final class RefusalsTest {
         of("seat", 0, 0, 0, 0).number(0, 0, 1, UNKNOWN).number(1, 0, 30000, OUTSIDE).number(2, 0, 7, OUTSIDE)
             .number(3, 0, 7, OUTSIDE).check();
         for (String ask : new String[] {"good", "why"}) {
-            of(ask, 0, 7).but(0, -1, UNKNOWN).but(0, 2, UNKNOWN).but(0, 1, NOT).but(1, 0, NOT).but(1, 6, NOT).but(1, -1, OUTSIDE)
+            of(ask, 0, 7).but(0, -1, UNKNOWN).but(0, 2, UNKNOWN).but(0, 1, NOT).but(1, 0, NOT).but(1, 6, NOT).but(1, -1,
+                OUTSIDE)
                 .but(1, 8, OUTSIDE).but(1, MIN, OUTSIDE).but(1, MAX, OUTSIDE).check();
         }
         of("change", 0, 0, 0, 0).number(0, 0, 1, UNKNOWN).number(1, 0, 7, OUTSIDE).number(3, 0, 2, OUTSIDE).check();
         for (int a : new int[] {0, 25000}) {
-            of("days", 0, a, a + 5000, 0, 0).number(1, a, a + 5000, OUTSIDE).number(0, 0, 1, UNKNOWN).number(3, 0, 7, OUTSIDE)
+            of("days", 0, a, a + 5000, 0, 0).number(1, a, a + 5000, OUTSIDE).number(0, 0, 1, UNKNOWN).number(3, 0, 7,
+                OUTSIDE)
                 .number(4, 0, 2, OUTSIDE).check();
             of("days", 0, a, a + 5000, 0, 0).number(2, a, a + 5000, OUTSIDE).number(0, 0, 1, UNKNOWN).check();
         }
@@ -242,7 +255,8 @@ public final class RefusalsTest {
         of("appeal", 0, 1).number(0, 0, 0, UNKNOWN).but(1, 2, NOT).but(1, 5, NOT).but(1, 0, OUTSIDE).but(1, 6, OUTSIDE)
             .but(1, MIN, OUTSIDE).but(1, MAX, OUTSIDE).after(NOT, "appeal 0 1").check();
         of("suit", 0, 0, 0).number(0, 0, 0, UNKNOWN).number(1, 0, 30000, OUTSIDE).number(2, 0, 3, OUTSIDE).check();
-        of("decay", 0, 0, 0, 0).number(0, 0, 1, UNKNOWN).number(1, 0, 1, UNKNOWN).number(2, 0, 7, OUTSIDE).number(3, 0, 3, OUTSIDE)
+        of("decay", 0, 0, 0, 0).number(0, 0, 1, UNKNOWN).number(1, 0, 1, UNKNOWN).number(2, 0, 7, OUTSIDE).number(3, 0, 3,
+            OUTSIDE)
             .check();
     }
 
@@ -254,7 +268,8 @@ public final class RefusalsTest {
             .number(3, 0, 6, OUTSIDE).number(4, 5, 30000, OUTSIDE).after(FULL, "13 x piece 0 0 0 0 0").check();
         of("one", 0, 0).number(0, 0, 2, UNKNOWN).number(1, 0, 2, UNKNOWN).check();
         of("lives", 0).number(0, -1, 2, UNKNOWN).check();
-        of("plan", 3, 14, 0).but(0, 4, UNKNOWN).but(0, -1, UNKNOWN).but(0, MIN, UNKNOWN).but(0, 0, OUTSIDE).but(1, 0, OUTSIDE)
+        of("plan", 3, 14, 0).but(0, 4, UNKNOWN).but(0, -1, UNKNOWN).but(0, MIN, UNKNOWN).but(0, 0, OUTSIDE).but(1, 0,
+            OUTSIDE)
             .but(1, 1000, OUTSIDE).but(1, 13, NOT).but(1, 1, NOT).number(2, -2, MAX, OUTSIDE).check();
     }
 }

@@ -41,8 +41,8 @@ public final class RegistryBoundsTest {
     }
 
     private static void constants() {
-        S.sentence("NONE = -1, BISHOP = -2, PRIMATE = -3, CROWN = -4, UNKNOWN = -100001, OUTSIDE = -100002, "
-            + "NOT = -100003, FULL = -100004, LARGE = -100005");
+        S.sentence("NONE = -1, BISHOP = -2, PRIMATE = -3, CROWN = -4, UNKNOWN = -100001, OUTSIDE = -100002, NOT = "
+            + "-100003, FULL = -100004, LARGE = -100005");
         S.due("NONE", DioceseBook.NONE, -1);
         S.due("BISHOP", DioceseBook.BISHOP, -2);
         S.due("PRIMATE", DioceseBook.PRIMATE, -3);
@@ -120,12 +120,13 @@ public final class RegistryBoundsTest {
             "living -50 -50 0", "paper IN 0 0 0 CROWN 0", "law 0 bar far=200;bar far=100;bar far=0 and holds=1;");
         S.asks(b, "barred 0 1 0 0 -> 0", "barred 0 2 0 0 -> 1", "barred 0 3 0 0 -> 2");
         S.sentence("THE SEE lies at (0, 0).");
-        S.asks(Sentences.book("living 0 0 0", "living 0 -1 0", "living -50 50 0"), "plan 1 1 -2 -> 0", "plan 2 1 -2 -> NOT",
-            "plan 2 2 -2 -> 2", "plan 4 199 -2 -> NOT", "plan 4 200 -2 -> 200");
+        S.asks(Sentences.book("living 0 0 0", "living 0 -1 0", "living -50 50 0"), "plan 1 1 -2 -> 0",
+            "plan 2 1 -2 -> NOT", "plan 2 2 -2 -> 2", "plan 4 199 -2 -> NOT", "plan 4 200 -2 -> 200");
     }
 
     private static void papers() {
-        S.sentence("PAPERS (150 at most) are told at NOW, each of a KIND, of something done on a DAY that is not after NOW");
+        S.sentence("PAPERS (150 at most) are told at NOW, each of a KIND, of something done on a DAY that is not after "
+            + "NOW");
         S.asks(Sentences.book("person 0", "go 10"), "told 0 0 -> UNKNOWN", "paper BORN 11 0 0 0 0 -> OUTSIDE",
             "paper BORN -1 0 0 0 0 -> OUTSIDE", "paper BORN 10 0 0 0 0 -> 0", "paper BORN 0 0 0 0 0 -> 1",
             "told 0 2 -> 10", "told 1 2 -> 10", "told 1 1 -> 0", "147 x paper BORN 5 0 0 0 0 -> 148",
@@ -139,19 +140,20 @@ public final class RegistryBoundsTest {
         S.sentence("0 BORN: PERSON p.");
         S.asks(Sentences.book("person 0"), "paper -1 0 0 0 0 0 -> OUTSIDE", "paper 0 0 0 0 0 0 -> 0",
             "paper 0 0 0 1 0 0 -> UNKNOWN", "paper 0 0 0 -1 0 0 -> UNKNOWN");
-        S.sentence("1 DIED: p. 2 PRIESTED: p. 3 IN: p into LIVING l, presented by q. 4 OUT: p out of l. 5 LEAVE: p may hold two. "
-            + "6 HEIR: q is the heir of p.");
+        S.sentence("1 DIED: p. 2 PRIESTED: p. 3 IN: p into LIVING l, presented by q. 4 OUT: p out of l. 5 LEAVE: p may "
+            + "hold two. 6 HEIR: q is the heir of p.");
         S.asks(Sentences.book("2 x person 0", "living 0 0 0"), "paper 1 0 0 2 0 0 -> UNKNOWN", "paper 1 0 0 1 0 0 -> 0",
-            "paper 2 0 0 2 0 0 -> UNKNOWN", "paper 2 0 0 1 0 0 -> 1", "paper 3 0 0 2 0 0 -> UNKNOWN", "paper 3 0 1 1 0 0 -> UNKNOWN",
-            "paper 3 0 0 1 0 0 -> 2", "paper 4 0 0 2 0 0 -> UNKNOWN", "paper 4 0 1 1 0 0 -> UNKNOWN", "paper 4 0 0 1 0 0 -> 3",
-            "paper 5 0 0 2 0 0 -> UNKNOWN", "paper 5 0 0 1 0 0 -> 4", "paper 6 0 0 2 0 0 -> UNKNOWN", "paper 6 0 0 1 2 0 -> UNKNOWN",
+            "paper 2 0 0 2 0 0 -> UNKNOWN", "paper 2 0 0 1 0 0 -> 1", "paper 3 0 0 2 0 0 -> UNKNOWN",
+            "paper 3 0 1 1 0 0 -> UNKNOWN", "paper 3 0 0 1 0 0 -> 2", "paper 4 0 0 2 0 0 -> UNKNOWN",
+            "paper 4 0 1 1 0 0 -> UNKNOWN", "paper 4 0 0 1 0 0 -> 3", "paper 5 0 0 2 0 0 -> UNKNOWN",
+            "paper 5 0 0 1 0 0 -> 4", "paper 6 0 0 2 0 0 -> UNKNOWN", "paper 6 0 0 1 2 0 -> UNKNOWN",
             "paper 6 0 0 1 0 0 -> 5", "about 1 0 0 -> NONE", "about 1 0 1 -> 0", "about 1 0 2 -> 0", "about 1 0 3 -> 0",
             "about 1 0 4 -> 1", "about 0 0 3 -> NONE", "seat 0 0 0 0 -> 0", "change 0 0 0 2 -> 2", "change 0 0 1 2 -> 3");
         S.sentence("8 ALONE: the right of l is p's alone. 9 NEXT: q has the next turn of p in l. 10 NOTICE of l.");
-        S.asks(Sentences.book("2 x person 0", "living 0 0 0"), "paper 8 0 1 1 0 0 -> UNKNOWN", "paper 8 0 0 2 0 0 -> UNKNOWN",
-            "paper 8 0 0 1 0 0 -> 0", "seat 0 0 0 6 -> 1", "paper 9 0 1 1 0 0 -> UNKNOWN", "paper 9 0 0 2 0 0 -> UNKNOWN",
-            "paper 9 0 0 1 2 0 -> UNKNOWN", "paper 9 0 0 1 0 0 -> 1", "seat 0 0 0 5 -> 0", "paper 10 0 1 0 0 0 -> UNKNOWN",
-            "paper 10 0 0 0 0 0 -> 2");
+        S.asks(Sentences.book("2 x person 0", "living 0 0 0"), "paper 8 0 1 1 0 0 -> UNKNOWN",
+            "paper 8 0 0 2 0 0 -> UNKNOWN", "paper 8 0 0 1 0 0 -> 0", "seat 0 0 0 6 -> 1", "paper 9 0 1 1 0 0 -> UNKNOWN",
+            "paper 9 0 0 2 0 0 -> UNKNOWN", "paper 9 0 0 1 2 0 -> UNKNOWN", "paper 9 0 0 1 0 0 -> 1", "seat 0 0 0 5 -> 0",
+            "paper 10 0 1 0 0 0 -> UNKNOWN", "paper 10 0 0 0 0 0 -> 2");
         S.sentence("7 SHARED: the right of l is shared by p and q, by turns, p first.");
         S.asks(Sentences.book("2 x person 0", "living 0 0 0"), "paper 7 0 0 1 0 0 -> 0", "seat 0 0 0 6 -> 1",
             "paper 7 0 0 1 1 0 -> OUTSIDE", "paper 7 0 1 1 0 0 -> UNKNOWN", "paper 7 0 0 1 2 0 -> UNKNOWN",
@@ -173,7 +175,8 @@ public final class RegistryBoundsTest {
 
     private static void asKnown() {
         S.sentence("AS KNOWN on a DAY d: those PAPERS that were told by d and are not VOID by one that was told by d");
-        DioceseBook b = Sentences.book("person 0", "go 5", "paper BORN 2 0 0 0 0", "go 2", "paper VOID 0 0 0 0 0", "go 1");
+        DioceseBook b = Sentences.book("person 0", "go 5", "paper BORN 2 0 0 0 0", "go 2", "paper VOID 0 0 0 0 0",
+            "go 1");
         S.asks(b, "about 0 4 0 -> NONE", "about 0 5 0 -> 2", "about 0 6 0 -> 2", "about 0 7 0 -> NONE",
             "about 0 8 0 -> NONE", "book 4 0 -> NONE", "book 5 0 -> 0", "book 6 1 -> NONE", "book 7 0 -> 1",
             "book 7 1 -> NONE");
@@ -192,9 +195,11 @@ public final class RegistryBoundsTest {
         S.sentence("THE BOOK of d are these by DAYS on which they were done, of one DAY by numbers.");
         DioceseBook b = Sentences.book("person 0", "go 9", "paper BORN 9 0 0 0 0", "paper BORN 8 0 0 0 0",
             "paper BORN 9 0 0 0 0", "paper BORN 0 0 0 0 0", "paper BORN 8 0 0 0 0");
-        S.asks(b, "book 9 0 -> 3", "book 9 1 -> 1", "book 9 2 -> 4", "book 9 3 -> 0", "book 9 4 -> 2", "book 9 5 -> NONE");
+        S.asks(b, "book 9 0 -> 3", "book 9 1 -> 1", "book 9 2 -> 4", "book 9 3 -> 0", "book 9 4 -> 2",
+            "book 9 5 -> NONE");
         S.sentence("THE STORY by THE BOOK of d, PAPER by PAPER up to a DAY (that DAY with it).");
-        DioceseBook c = Sentences.book("2 x person 0", "living 0 0 0", "go 9", "paper OUT 5 0 0 0 0", "paper IN 5 0 0 CROWN 0");
+        DioceseBook c = Sentences.book("2 x person 0", "living 0 0 0", "go 9", "paper OUT 5 0 0 0 0",
+            "paper IN 5 0 0 CROWN 0");
         S.asks(c, "seat 0 4 9 0 -> 0", "seat 0 5 9 0 -> 1", "paper OUT 5 0 0 0 0 -> 2", "seat 0 5 9 0 -> 0",
             "seat 0 30000 9 0 -> 0");
     }
@@ -224,8 +229,8 @@ public final class RegistryBoundsTest {
 
     private static void promise2() {
         S.sentence("NOW goes on by n (0 .. 9999): NOW.");
-        S.asks(new DioceseBook(), "go 0 -> 0", "go -1 -> OUTSIDE", "go 10000 -> OUTSIDE", "count 0 -> 0", "go 9999 -> 9999",
-            "go 1 -> 10000", "go 0 -> 10000");
+        S.asks(new DioceseBook(), "go 0 -> 0", "go -1 -> OUTSIDE", "go 10000 -> OUTSIDE", "count 0 -> 0",
+            "go 9999 -> 9999", "go 1 -> 10000", "go 0 -> 10000");
         S.sentence("OUTSIDE; NOT: it would be above 30000.");
         S.asks(Sentences.book("until 20001"), "go 9999 -> 30000", "go 1 -> NOT", "go 9999 -> NOT", "go 10000 -> OUTSIDE",
             "count 0 -> 30000");
@@ -246,29 +251,30 @@ public final class RegistryBoundsTest {
         DioceseBook b = Sentences.book("2 x person 7", "living 0 0 8");
         S.asks(b, "set 0 0 0 -> 8", "set 0 0 999 -> 0", "set 0 0 1000 -> OUTSIDE", "set 0 0 -1 -> OUTSIDE",
             "set 0 1 0 -> UNKNOWN", "set 0 -1 0 -> UNKNOWN", "set 0 1 1000 -> UNKNOWN", "set 0 0 1 -> 999",
-            "set 1 0 0 -> 7", "set 1 1 9999 -> 7", "set 1 0 9999 -> 0", "set 1 0 10000 -> OUTSIDE", "set 1 0 -1 -> OUTSIDE",
-            "set 1 2 0 -> UNKNOWN", "set 1 -1 0 -> UNKNOWN", "set 1 2 -1 -> UNKNOWN", "set 1 0 1 -> 9999",
-            "set 2 0 0 -> OUTSIDE", "set -1 0 0 -> OUTSIDE", "set 2 5 0 -> OUTSIDE");
+            "set 1 0 0 -> 7", "set 1 1 9999 -> 7", "set 1 0 9999 -> 0", "set 1 0 10000 -> OUTSIDE",
+            "set 1 0 -1 -> OUTSIDE", "set 1 2 0 -> UNKNOWN", "set 1 -1 0 -> UNKNOWN", "set 1 2 -1 -> UNKNOWN",
+            "set 1 0 1 -> 9999", "set 2 0 0 -> OUTSIDE", "set -1 0 0 -> OUTSIDE", "set 2 5 0 -> OUTSIDE");
     }
 
     private static void promise6() {
         S.sentence("A PAPER of a KIND: its number; numbers that it has not are not looked at.");
-        S.asks(Sentences.book("2 x person 0", "living 0 0 0"), "paper BORN 0 -1 0 -1 -1 -> 0", "paper DIED 0 1 0 2 10000 -> 1",
-            "paper PRIESTED 0 1 0 2 10000 -> 2", "paper IN 0 0 0 1 10000 -> 3", "paper OUT 0 0 0 2 10000 -> 4",
-            "paper LEAVE 0 1 0 2 10000 -> 5", "paper HEIR 0 1 0 1 10000 -> 6", "paper SHARED 0 0 0 1 10000 -> 7",
-            "paper ALONE 0 0 0 0 10000 -> 8", "paper NEXT 0 0 0 0 10000 -> 9", "paper NOTICE 0 0 2 2 10000 -> 10",
-            "paper SURVEY 0 0 2 2 9999 -> 11", "paper VOID 0 1 2 2 11 -> 12");
+        S.asks(Sentences.book("2 x person 0", "living 0 0 0"), "paper BORN 0 -1 0 -1 -1 -> 0",
+            "paper DIED 0 1 0 2 10000 -> 1", "paper PRIESTED 0 1 0 2 10000 -> 2", "paper IN 0 0 0 1 10000 -> 3",
+            "paper OUT 0 0 0 2 10000 -> 4", "paper LEAVE 0 1 0 2 10000 -> 5", "paper HEIR 0 1 0 1 10000 -> 6",
+            "paper SHARED 0 0 0 1 10000 -> 7", "paper ALONE 0 0 0 0 10000 -> 8", "paper NEXT 0 0 0 0 10000 -> 9",
+            "paper NOTICE 0 0 2 2 10000 -> 10", "paper SURVEY 0 0 2 2 9999 -> 11", "paper VOID 0 1 2 2 11 -> 12");
         S.sentence("PAPERS of KIND 6, 7 of one PERSON twice: OUTSIDE.");
-        S.asks(Sentences.book("2 x person 0", "living 0 0 0"), "paper 6 0 0 1 1 0 -> OUTSIDE", "paper 7 0 0 0 0 0 -> OUTSIDE",
-            "paper 6 0 0 2 2 0 -> UNKNOWN", "count 3 -> 0", "paper 3 0 0 1 1 0 -> 0", "paper 9 0 0 1 1 0 -> 1",
-            "paper 6 0 0 1 0 0 -> 2", "paper 7 0 0 0 1 0 -> 3");
+        S.asks(Sentences.book("2 x person 0", "living 0 0 0"), "paper 6 0 0 1 1 0 -> OUTSIDE",
+            "paper 7 0 0 0 0 0 -> OUTSIDE", "paper 6 0 0 2 2 0 -> UNKNOWN", "count 3 -> 0", "paper 3 0 0 1 1 0 -> 0",
+            "paper 9 0 0 1 1 0 -> 1", "paper 6 0 0 1 0 0 -> 2", "paper 7 0 0 0 1 0 -> 3");
         S.sentence("UNKNOWN (p, l, q, the PAPER v of KIND 12), OUTSIDE (KIND, DAY, v), FULL.");
         DioceseBook b = Sentences.book("person 0", "living 0 0 0", "150 x paper NOTICE 0 0 0 0 0");
-        S.asks(b, "paper IN 1 0 1 CROWN 0 -> UNKNOWN", "paper IN 1 1 0 CROWN 0 -> UNKNOWN", "paper IN 1 0 0 1 0 -> UNKNOWN",
-            "paper VOID 1 0 0 0 150 -> UNKNOWN", "paper VOID 1 0 0 0 -1 -> UNKNOWN", "paper 13 0 0 0 0 0 -> OUTSIDE",
-            "paper -1 0 0 0 0 0 -> OUTSIDE", "paper IN 1 0 0 CROWN 0 -> OUTSIDE", "paper IN -1 0 0 CROWN 0 -> OUTSIDE",
-            "paper SURVEY 0 0 0 0 10000 -> OUTSIDE", "paper SURVEY 0 1 0 0 10000 -> UNKNOWN", "paper IN 0 0 0 CROWN 0 -> FULL",
-            "paper VOID 0 0 0 0 149 -> FULL", "count 3 -> 150");
+        S.asks(b, "paper IN 1 0 1 CROWN 0 -> UNKNOWN", "paper IN 1 1 0 CROWN 0 -> UNKNOWN",
+            "paper IN 1 0 0 1 0 -> UNKNOWN", "paper VOID 1 0 0 0 150 -> UNKNOWN", "paper VOID 1 0 0 0 -1 -> UNKNOWN",
+            "paper 13 0 0 0 0 0 -> OUTSIDE", "paper -1 0 0 0 0 0 -> OUTSIDE", "paper IN 1 0 0 CROWN 0 -> OUTSIDE",
+            "paper IN -1 0 0 CROWN 0 -> OUTSIDE", "paper SURVEY 0 0 0 0 10000 -> OUTSIDE",
+            "paper SURVEY 0 1 0 0 10000 -> UNKNOWN", "paper IN 0 0 0 CROWN 0 -> FULL", "paper VOID 0 0 0 0 149 -> FULL",
+            "count 3 -> 150");
     }
 
     private static void promise7() {
@@ -276,11 +282,11 @@ public final class RegistryBoundsTest {
             + "7 whether it is VOID AS KNOWN now (1, 0). UNKNOWN, OUTSIDE.");
         DioceseBook b = Sentences.book("2 x person 0", "living 0 0 0", "go 3", "paper IN 1 0 1 PRIMATE 5",
             "paper BORN 3 0 0 0 0", "paper SURVEY 0 0 1 1 0");
-        S.asks(b, "told 0 0 -> 3", "told 0 1 -> 1", "told 0 2 -> 3", "told 0 3 -> 0", "told 0 4 -> 1", "told 0 5 -> PRIMATE",
-            "told 0 6 -> NONE", "told 0 7 -> 0", "told 1 3 -> NONE", "told 1 4 -> 0", "told 1 5 -> NONE", "told 2 4 -> NONE",
-            "told 2 5 -> NONE", "told 2 6 -> 0", "told 0 -1 -> OUTSIDE", "told 0 8 -> OUTSIDE", "told 3 0 -> UNKNOWN",
-            "told -1 0 -> UNKNOWN", "told 3 8 -> UNKNOWN", "paper VOID 0 0 0 0 0 -> 3", "told 0 7 -> 1", "told 3 7 -> 0",
-            "told 3 6 -> 0", "told 3 3 -> NONE");
+        S.asks(b, "told 0 0 -> 3", "told 0 1 -> 1", "told 0 2 -> 3", "told 0 3 -> 0", "told 0 4 -> 1",
+            "told 0 5 -> PRIMATE", "told 0 6 -> NONE", "told 0 7 -> 0", "told 1 3 -> NONE", "told 1 4 -> 0",
+            "told 1 5 -> NONE", "told 2 4 -> NONE", "told 2 5 -> NONE", "told 2 6 -> 0", "told 0 -1 -> OUTSIDE",
+            "told 0 8 -> OUTSIDE", "told 3 0 -> UNKNOWN", "told -1 0 -> UNKNOWN", "told 3 8 -> UNKNOWN",
+            "paper VOID 0 0 0 0 0 -> 3", "told 0 7 -> 1", "told 3 7 -> 0", "told 3 6 -> 0", "told 3 3 -> NONE");
     }
 
     private static void promise8() {
@@ -292,27 +298,27 @@ public final class RegistryBoundsTest {
     }
 
     private static void promise9() {
-        S.sentence("what = 0 BORN, 1 DIED, 2 PRIESTED on (NONE), 3 the last HEIR told, 4 whether it has a LEAVE (1, 0). "
-            + "UNKNOWN, OUTSIDE.");
+        S.sentence("what = 0 BORN, 1 DIED, 2 PRIESTED on (NONE), 3 the last HEIR told, 4 whether it has a LEAVE (1, "
+            + "0). UNKNOWN, OUTSIDE.");
         DioceseBook b = Sentences.book("3 x person 0", "go 5");
         S.asks(b, "about 0 5 0 -> NONE", "about 0 5 1 -> NONE", "about 0 5 2 -> NONE", "about 0 5 3 -> NONE",
-            "about 0 5 4 -> 0", "paper HEIR 4 0 0 1 0", "paper HEIR 4 0 0 2 0", "paper HEIR 5 0 2 1 0", "paper LEAVE 5 0 0 0 0",
-            "about 0 5 3 -> 2", "about 2 5 3 -> 1", "about 1 5 3 -> NONE", "about 0 5 4 -> 1", "about 1 5 4 -> 0",
-            "about 0 4 3 -> NONE", "about 0 4 4 -> 0", "about 0 5 -1 -> OUTSIDE", "about 0 5 5 -> OUTSIDE",
-            "about 0 6 0 -> OUTSIDE", "about 0 -1 0 -> OUTSIDE", "about 3 5 0 -> UNKNOWN", "about -1 5 0 -> UNKNOWN",
-            "about 3 6 5 -> UNKNOWN");
+            "about 0 5 4 -> 0", "paper HEIR 4 0 0 1 0", "paper HEIR 4 0 0 2 0", "paper HEIR 5 0 2 1 0",
+            "paper LEAVE 5 0 0 0 0", "about 0 5 3 -> 2", "about 2 5 3 -> 1", "about 1 5 3 -> NONE", "about 0 5 4 -> 1",
+            "about 1 5 4 -> 0", "about 0 4 3 -> NONE", "about 0 4 4 -> 0", "about 0 5 -1 -> OUTSIDE",
+            "about 0 5 5 -> OUTSIDE", "about 0 6 0 -> OUTSIDE", "about 0 -1 0 -> OUTSIDE", "about 3 5 0 -> UNKNOWN",
+            "about -1 5 0 -> UNKNOWN", "about 3 6 5 -> UNKNOWN");
         S.asks(Sentences.book("2 x person 0", "paper HEIR 0 0 0 1 0"), "about 0 0 3 -> 1", "about 1 0 3 -> NONE");
-        S.asks(Sentences.book("2 x person 0", "149 x paper BORN 0 0 0 0 0"), "about 1 0 3 -> NONE", "paper HEIR 0 0 1 0 0 -> 149",
-            "about 1 0 3 -> 0", "about 0 0 3 -> NONE", "about 1 0 4 -> 0");
+        S.asks(Sentences.book("2 x person 0", "149 x paper BORN 0 0 0 0 0"), "about 1 0 3 -> NONE",
+            "paper HEIR 0 0 1 0 0 -> 149", "about 1 0 3 -> 0", "about 0 0 3 -> NONE", "about 1 0 4 -> 0");
     }
 
     private static void promise10() {
-        S.sentence("0 NOW, 1 PERSONS, 2 LIVINGS, 3 PAPERS, 4 of these VOID (AS KNOWN now), 5 CANONS, 6 SUITS, 7 PIECES, "
-            + "8 LIVINGS that are EMPTY today, 9 CLAIMED today, 10 bytes of THE TEXT. OUTSIDE.");
+        S.sentence("0 NOW, 1 PERSONS, 2 LIVINGS, 3 PAPERS, 4 of these VOID (AS KNOWN now), 5 CANONS, 6 SUITS, 7 "
+            + "PIECES, 8 LIVINGS that are EMPTY today, 9 CLAIMED today, 10 bytes of THE TEXT. OUTSIDE.");
         S.asks(new DioceseBook(), "count -1 -> OUTSIDE", "count 11 -> OUTSIDE", "count 0 -> 0", "count 10 -> 0");
         DioceseBook b = Sentences.book("until 30000", "40 x person 0", "12 x living 0 0 0", "paper IN 0 0 0 CROWN 0",
-            "paper IN 0 0 1 CROWN 0", "paper IN 30000 1 2 CROWN 0", "146 x paper BORN 0 0 0 0 0", "paper VOID 0 0 0 0 148",
-            "10 x law 30000", "20 x present 0 0 0", "16 x piece 0 0 0 0 0", "25 x feed 8 0");
+            "paper IN 0 0 1 CROWN 0", "paper IN 30000 1 2 CROWN 0", "146 x paper BORN 0 0 0 0 0",
+            "paper VOID 0 0 0 0 148", "10 x law 30000", "20 x present 0 0 0", "16 x piece 0 0 0 0 0", "25 x feed 8 0");
         S.asks(b, "count 0 -> 30000", "count 1 -> 40", "count 2 -> 12", "count 3 -> 150", "count 4 -> 1", "count 5 -> 10",
             "count 6 -> 20", "count 7 -> 16", "count 8 -> 10", "count 9 -> 1", "count 10 -> 200");
         DioceseBook today = Sentences.book("2 x person 0", "living 0 0 0", "go 9", "paper IN 8 0 0 CROWN 0",

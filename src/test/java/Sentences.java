@@ -96,7 +96,8 @@ final class Sentences {
             if (split < 0) {
                 call(b, row);
             } else {
-                due(row.substring(0, split), answer(b, row.substring(0, split)), number(row.substring(split + DUE.length())));
+                due(row.substring(0, split), answer(b, row.substring(0, split)),
+                    number(row.substring(split + DUE.length())));
             }
         }
     }

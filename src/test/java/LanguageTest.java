@@ -16,6 +16,7 @@ import java.util.regex.Pattern;
 public final class LanguageTest {
     private static final Check C = new Check();
     private static final Path SOURCE = Path.of("src/main/java/DioceseBook.java");
+    private static final Path DOCUMENT = Path.of("../shared/DOC.md");
     private static final String FACE = "go(int) person(int) living(int,int,int) set(int,int,int)"
         + " paper(int,int,int,int,int,int) told(int,int) book(int,int) about(int,int,int) count(int) feed(int,long)"
         + " canon(int) fault() force(int,int,int) counts(int,int) barred(int,int,int,int) seat(int,int,int,int)"
@@ -31,7 +32,40 @@ public final class LanguageTest {
         face();
         classes();
         text(Files.readString(SOURCE));
+        if (Files.exists(DOCUMENT)) {
+            shownFace(Files.readString(SOURCE), Files.readString(DOCUMENT));
+        }
         C.end();
+    }
+
+    /** Each line of the face that the document shows, and each heading that it tells, in the class in that order. */
+    private static void shownFace(String source, String document) {
+        Matcher shown = Pattern.compile("(?s)```java\n(.*?)\n```").matcher(document);
+        C.due("the document shows a face", shown.find() ? 1 : 0, 1);
+        String code = source.replaceAll("\\s+", " ");
+        int at = 0;
+        int lines = 0;
+        for (String line : shown.group(1).split("\n")) {
+            String part = line.replaceAll("\\);$", ") {").replace('}', ' ').trim();
+            int found = code.indexOf(part, at);
+            C.due("in its place: " + line, found < 0 ? 0 : 1, 1);
+            at = found < 0 ? at : found;
+            lines++;
+        }
+        C.due("lines of the face", lines, 36);
+        Matcher head = Pattern.compile("Ahead of the calls (.*) the interface says: (---- .*)\\.").matcher(document);
+        int heads = 0;
+        while (head.find()) {
+            int from = code.indexOf("// " + head.group(2) + " ");
+            C.due("heading " + head.group(2), from < 0 ? 0 : 1, 1);
+            int to = code.indexOf("// ----", from + 1);
+            for (String name : head.group(1).replace("`", "").split(", ")) {
+                int place = code.indexOf("public int " + name + "(");
+                C.due("under " + head.group(2) + ": " + name, place > from && place < to ? 1 : 0, 1);
+            }
+            heads++;
+        }
+        C.due("headings", heads, 5);
     }
 
     private static void face() {
